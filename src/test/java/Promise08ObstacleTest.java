@@ -28,6 +28,8 @@ public final class Promise08ObstacleTest {
         due(Make.diagonal(1, 2, -5), 2);
         due(Make.diagonal(1, 1, -6), 2);
         due(Make.diagonal(1, -2, -3), 2);
+        due(Make.diagonal(5, 3, -1), 3);
+        due(Make.diagonal(3, 5, -1), 3);
         due(Make.diagonal(1, 1, 1, 1), 0);
         due(Make.diagonal(1, 1, 1, -1), -1);
         due(Make.diagonal(1, 1, -5, -5), -1);

@@ -31,6 +31,7 @@ public final class Promise10EquivalentTest {
         // Rank.
         due(Make.diagonal(1, 0), Make.diagonal(1, 1), false);
         due(Make.diagonal(1, -1, 0, 0), Make.diagonal(1, -1, 1, -1), false);
+        due(new int[4][4], Make.diagonal(-1, -1, -1, -1), false);
         // Positive; rank, discriminant and the real sign are alike.
         due(Make.diagonal(1, 1, 1, 1), Make.diagonal(-1, -1, -1, -1), false);
         // Discriminant.
