@@ -1,6 +1,3 @@
-import java.util.ArrayList;
-import java.util.List;
-
 /** Promises 4 to 10 and 12: many forms, against the document's terms followed word for word. */
 public final class ByTheBookTest {
     private static final int FORMS = 160;
@@ -90,23 +87,11 @@ public final class ByTheBookTest {
             CHECK.due(name + " isotropicAt " + place, x.isotropicAt(0, place), book.isotropicAt(place, d));
         }
         CHECK.due(name + " obstacle", x.obstacle(0), book.obstacle());
-        CHECK.due(name + " signs", signs(x), book.signs());
+        CHECK.due(name + " signs", Answers.signs(x, 0), book.signs());
         for (int count = 0; count < 6; count++) {
             int v = make.number(1, 1000) * (count % 2 == 0 ? 1 : -1);
             CHECK.due(name + " takes " + v, x.takes(0, v), book.takes(v));
         }
         CHECK.due(name + " equivalent " + Make.text(n), x.equivalent(), book.equivalent(Book.of(n)));
-    }
-
-    private static List<Integer> signs(RationalForms x) {
-        List<Integer> found = new ArrayList<>();
-        try {
-            for (int k = 0; k < 100; k++) {
-                found.add(x.sign(0, k));
-            }
-        } catch (IndexOutOfBoundsException e) {
-            return found;
-        }
-        return List.of();
     }
 }

@@ -2,6 +2,10 @@ import java.util.Arrays;
 
 /** Forms for the tests, and a fixed sequence of numbers to make many of them. */
 final class Make {
+    /** Neither 0 nor a prime up to 1000: on both sides of the first and the last that are, and far off. */
+    static final int[] NO_PLACES = {1, 4, 6, 9, 15, 49, 961, 996, 998, 999, 1000, 1001, 1009, 1013,
+        -1, -2, -3, -997, -1000, Integer.MIN_VALUE, Integer.MIN_VALUE + 2, Integer.MAX_VALUE};
+
     private long state;
 
     Make(long seed) {
@@ -64,6 +68,10 @@ final class Make {
 
     static RationalForms form(int... a) {
         return form(diagonal(a));
+    }
+
+    static boolean isPlace(int place) {
+        return place == 0 || (place <= 1000 && Book.PRIMES.contains(place));
     }
 
     static String text(int[][] m) {

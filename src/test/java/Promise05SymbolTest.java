@@ -4,6 +4,7 @@ public final class Promise05SymbolTest {
     private static final int MAX = Integer.MAX_VALUE;
     private static final int[] PLACES = {0, 2, 3, 5, 7, 11, 13, 17, 19, 23, 29, 31};
     private static final Check CHECK = new Check();
+    private static final Refused REFUSED = new Refused(CHECK);
 
     public static void main(String[] args) {
         real();
@@ -11,8 +12,15 @@ public final class Promise05SymbolTest {
         atOddPrimes();
         theEdgesOfInt();
         byCongruences();
+        everyOrderAndUnitAtTwo();
+        everyOrderAndUnitAtOddPrimes();
         laws();
-        wrongInputs();
+        nextToZero();
+        firstIsZero();
+        secondIsZero();
+        everyPlaceUpToThousand();
+        noSuchPlace();
+        whichComesFirst();
         CHECK.end();
     }
 
@@ -103,6 +111,54 @@ public final class Promise05SymbolTest {
         return false;
     }
 
+    /** Units are 1, 3, 5, 7 at 2, of numbers below 0 and of high orders, too. */
+    private static void everyOrderAndUnitAtTwo() {
+        for (int e = 0; e <= 5; e++) {
+            for (int f = 0; f <= 5; f++) {
+                for (int u = 1; u <= 7; u += 2) {
+                    for (int w = 1; w <= 7; w += 2) {
+                        int power = (u - 1) / 2 * ((w - 1) / 2) + e * ((w * w - 1) / 8) + f * ((u * u - 1) / 8);
+                        int want = power % 2 == 0 ? 1 : -1;
+                        due(u << e, w << f, 2, want);
+                        due((u - 8) * (1 << e), w << f, 2, want);
+                        due((u + 16) << e, (w - 24) * (1 << f), 2, want);
+                    }
+                }
+            }
+        }
+    }
+
+    /** Units are 1 to p - 1, of numbers below 0 and of high orders, too. */
+    private static void everyOrderAndUnitAtOddPrimes() {
+        for (int p : new int[] {3, 5, 7, 31}) {
+            boolean[] remainder = new boolean[p];
+            for (int x = 1; x < p; x++) {
+                remainder[x * x % p] = true;
+            }
+            for (int u = 1; u < p; u++) {
+                for (int w = 1; w < p; w++) {
+                    for (int code = 0; code < 16; code++) {
+                        int e = code / 4;
+                        int f = code % 4;
+                        boolean turned = e * f % 2 == 1 && p % 4 == 3;
+                        turned ^= f % 2 == 1 && !remainder[u];
+                        turned ^= e % 2 == 1 && !remainder[w];
+                        due(u * power(p, e), w * power(p, f), p, turned ? -1 : 1);
+                        due((u - p) * power(p, e), (w + p) * power(p, f), p, turned ? -1 : 1);
+                    }
+                }
+            }
+        }
+    }
+
+    private static int power(int p, int e) {
+        int result = 1;
+        for (int k = 0; k < e; k++) {
+            result *= p;
+        }
+        return result;
+    }
+
     private static void laws() {
         for (int a = -31; a <= 31; a++) {
             for (int b = -31; b <= 31; b++) {
@@ -121,16 +177,50 @@ public final class Promise05SymbolTest {
         }
     }
 
-    private static void wrongInputs() {
-        for (int place : new int[] {1, 4, 6, 9, 15, 49, 961, 999, 1000, 1009, 1013, -1, -2, -3, MIN, MAX}) {
-            CHECK.badArgument("symbol(3, 5, " + place + ")", () -> symbol(3, 5, place));
+    /** The numbers other than 0 that are next to it have symbols at every place. */
+    private static void nextToZero() {
+        for (int place : PLACES) {
+            due(1, 1, place, 1);
+            due(1, -1, place, 1);
+            due(-1, 1, place, 1);
+            due(-1, -1, place, place == 0 || place == 2 ? -1 : 1);
         }
+    }
+
+    private static void firstIsZero() {
         for (int place : new int[] {0, 2, 3, 997}) {
-            CHECK.badArithmetic("symbol(0, 1, " + place + ")", () -> symbol(0, 1, place));
-            CHECK.badArithmetic("symbol(1, 0, " + place + ")", () -> symbol(1, 0, place));
-            CHECK.badArithmetic("symbol(0, 0, " + place + ")", () -> symbol(0, 0, place));
+            for (int b : new int[] {1, -1, place, MIN, MAX}) {
+                REFUSED.arithmetic("symbol(0, " + b + ", " + place + ")", x -> x.symbol(0, b, place));
+            }
         }
-        CHECK.badArithmetic("symbol(0, 1, 4)", () -> symbol(0, 1, 4));
+    }
+
+    private static void secondIsZero() {
+        for (int place : new int[] {0, 2, 3, 997}) {
+            for (int a : new int[] {1, -1, place, MIN, MAX}) {
+                REFUSED.arithmetic("symbol(" + a + ", 0, " + place + ")", x -> x.symbol(a, 0, place));
+            }
+        }
+    }
+
+    private static void everyPlaceUpToThousand() {
+        for (int place = -1100; place <= 1100; place++) {
+            int asked = place;
+            CHECK.due("symbol(1, 1, " + place + ") throws", Answers.thrownBy(() -> symbol(1, 1, asked)),
+                    Make.isPlace(place) ? "nothing" : IllegalArgumentException.class);
+        }
+    }
+
+    private static void noSuchPlace() {
+        for (int place : Make.NO_PLACES) {
+            REFUSED.argument("symbol(3, 5, " + place + ")", x -> x.symbol(3, 5, place));
+        }
+    }
+
+    private static void whichComesFirst() {
+        REFUSED.arithmetic("symbol(0, 1, 4)", x -> x.symbol(0, 1, 4));
+        REFUSED.arithmetic("symbol(1, 0, 1009)", x -> x.symbol(1, 0, 1009));
+        REFUSED.arithmetic("symbol(0, 0, -1)", x -> x.symbol(0, 0, -1));
     }
 
     /** A new object each time: one is good for 512 calls. */

@@ -1,12 +1,17 @@
 /** Promise 6: hasse. */
 public final class Promise06HasseTest {
     private static final Check CHECK = new Check();
+    private static final Refused REFUSED = new Refused(CHECK);
 
     public static void main(String[] args) {
         ordinary();
         whicheverVariables();
         productIsOne();
-        wrongInputs();
+        oneIfThereAreNone();
+        theLastPlaces();
+        noSuchForm();
+        everyPlaceUpToThousand();
+        noSuchPlace();
         CHECK.end();
     }
 
@@ -72,13 +77,53 @@ public final class Promise06HasseTest {
         return true;
     }
 
-    private static void wrongInputs() {
-        RationalForms x = Make.form(1, 2);
-        for (int f : new int[] {-1, 2, Integer.MIN_VALUE, Integer.MAX_VALUE}) {
-            CHECK.badArgument("hasse(" + f + ", 2)", () -> x.hasse(f, 2));
+    /** Ranks 0 and 1 have no two terms, so that the sign is 1 at every place. */
+    private static void oneIfThereAreNone() {
+        for (int place : new int[] {0, 2, 3, 5, 7, 997}) {
+            for (int n = 1; n <= 4; n++) {
+                due(new int[n][n], place, 1);
+                for (int v = -6; v <= 6; v++) {
+                    int[] a = new int[n];
+                    a[n - 1] = v;
+                    due(Make.diagonal(a), place, 1);
+                }
+            }
         }
-        for (int place : new int[] {1, 4, 6, 9, 1000, 1009, -1, -2, Integer.MIN_VALUE, Integer.MAX_VALUE}) {
-            CHECK.badArgument("hasse(0, " + place + ")", () -> x.hasse(0, place));
+    }
+
+    private static void theLastPlaces() {
+        // The determinant is 997 times a square, and the sign there is the only one of -1.
+        int[][] high = {{0, 0, 3, 5}, {0, -2, 5, -2}, {3, 5, 0, 0}, {5, -2, 0, 2}};
+        due(high, 997, -1);
+        due(high, 991, 1);
+        due(high, 2, 1);
+        due(high, 0, Book.of(high).hasse(0));
+        due(new int[][] {{-2, -2, -5, -6}, {-2, 4, -5, 3}, {-5, -5, -1, 3}, {-6, 3, 3, 2}}, 997, -1);
+        due(new int[][] {{5, 5, -1, 4}, {5, -6, 5, 6}, {-1, 5, 5, -6}, {4, 6, -6, -4}}, 991, -1);
+    }
+
+    private static void noSuchForm() {
+        for (int f : Refused.NO_FORMS) {
+            for (int place : new int[] {0, 2, 997, 4}) {
+                REFUSED.argument("hasse(" + f + ", " + place + ")", x -> x.hasse(f, place));
+            }
+        }
+    }
+
+    private static void everyPlaceUpToThousand() {
+        for (int place = -1100; place <= 1100; place++) {
+            RationalForms x = Make.form(1, 2);
+            int asked = place;
+            CHECK.due("hasse(0, " + place + ") throws", Answers.thrownBy(() -> x.hasse(0, asked)),
+                    Make.isPlace(place) ? "nothing" : IllegalArgumentException.class);
+        }
+    }
+
+    /** Of a form of rank 0 or below its dimension, too. */
+    private static void noSuchPlace() {
+        for (int place : Make.NO_PLACES) {
+            REFUSED.argument("hasse(0, " + place + ")", x -> x.hasse(0, place));
+            REFUSED.argument("hasse(1, " + place + ")", x -> x.hasse(1, place));
         }
     }
 

@@ -1,6 +1,7 @@
 /** Promise 9: takes. */
 public final class Promise09TakesTest {
     private static final Check CHECK = new Check();
+    private static final Refused REFUSED = new Refused(CHECK);
 
     public static void main(String[] args) {
         rankZero();
@@ -10,13 +11,21 @@ public final class Promise09TakesTest {
         rankFour();
         variablesWithoutTerm();
         theEdges();
-        wrongInputs();
+        noSuchForm();
+        numberTooSmall();
+        numberTooLarge();
+        numberIsZero();
+        whichComesFirst();
         CHECK.end();
     }
 
+    /** With no term left, - v * z * z alone would have no zero; nothing is taken. */
     private static void rankZero() {
-        due(new int[][] {{0}}, 1, false);
-        due(new int[4][4], -7, false);
+        for (int n = 1; n <= 4; n++) {
+            for (int v : new int[] {-1000, -7, -1, 1, 4, 1000}) {
+                due(new int[n][n], v, false);
+            }
+        }
     }
 
     private static void rankOne() {
@@ -79,18 +88,21 @@ public final class Promise09TakesTest {
         due(Make.diagonal(1, 1, -3), -1, true);
     }
 
-    /** Each prime is open for rank 4; only the sign can be wrong. */
+    /** Rank 5 is isotropic at every prime, and at 0 if both signs are there: so rank 4 takes by sign. */
     private static void rankFour() {
-        RationalForms sum = Make.form(1, 1, 1, 1);
-        RationalForms minus = Make.form(-2, -3, -5, -6);
-        RationalForms both = Make.form(1, -2, 3, -6);
-        for (int v : new int[] {1, 7, 15, 28, 60, 112, 999, 1000}) {
-            CHECK.due("sum takes " + v, sum.takes(0, v), true);
-            CHECK.due("sum takes " + -v, sum.takes(0, -v), false);
-            CHECK.due("minus takes " + v, minus.takes(0, v), false);
-            CHECK.due("minus takes " + -v, minus.takes(0, -v), true);
-            CHECK.due("both takes " + v, both.takes(0, v), true);
-            CHECK.due("both takes " + -v, both.takes(0, -v), true);
+        int[][] terms = {{1, 1, 1, 1}, {2, 3, 5, 6}, {1, 2, 3, 6}, {1, 1, 3, 3}, {5, 5, 5, 5}};
+        for (int[] a : terms) {
+            for (int signs = 0; signs < 16; signs++) {
+                int[] turned = new int[4];
+                for (int k = 0; k < 4; k++) {
+                    turned[k] = (signs >> k) % 2 == 0 ? a[k] : -a[k];
+                }
+                RationalForms x = Make.form(turned);
+                for (int v : new int[] {1, 7, 15, 28, 60, 112, 999, 1000}) {
+                    CHECK.due(Make.text(Make.diagonal(turned)) + " takes " + v, x.takes(0, v), signs != 15);
+                    CHECK.due(Make.text(Make.diagonal(turned)) + " takes " + -v, x.takes(0, -v), signs != 0);
+                }
+            }
         }
     }
 
@@ -108,6 +120,16 @@ public final class Promise09TakesTest {
         RationalForms x = Make.form(1, 1, 1, -1);
         CHECK.due("takes 1000", x.takes(0, 1000), true);
         CHECK.due("takes -1000", x.takes(0, -1000), true);
+        // 1000 and -1000 are 10 and -10 times a square, 999 is 111 times one.
+        due(new int[][] {{1, 0}, {0, 1}}, 1000, true);
+        due(new int[][] {{1, 0}, {0, 1}}, 999, false);
+        due(new int[][] {{-1, 0}, {0, -1}}, -1000, true);
+        due(new int[][] {{-1, 0}, {0, -1}}, -999, false);
+        due(Make.diagonal(5), 1000, false);
+        due(Make.diagonal(5), 980, true);
+        due(Make.diagonal(-5), -980, true);
+        due(Make.diagonal(1), 1, true);
+        due(Make.diagonal(-1), -1, true);
         CHECK.due("takes the same again", x.takes(0, 1000), true);
         CHECK.due("its rank is as before", x.about(0, 1), 4);
         Make.set(x, 1, Make.diagonal(-1));
@@ -115,18 +137,42 @@ public final class Promise09TakesTest {
         CHECK.due("form 1 takes 1", x.takes(1, 1), false);
     }
 
-    private static void wrongInputs() {
-        RationalForms x = Make.form(1, 1);
-        for (int f : new int[] {-1, 2, Integer.MIN_VALUE, Integer.MAX_VALUE}) {
-            CHECK.badArgument("takes(" + f + ", 1)", () -> x.takes(f, 1));
-            CHECK.badArgument("takes(" + f + ", 0)", () -> x.takes(f, 0));
+    private static void noSuchForm() {
+        for (int f : Refused.NO_FORMS) {
+            for (int v : new int[] {1, -1, 1000, -1000}) {
+                REFUSED.argument("takes(" + f + ", " + v + ")", x -> x.takes(f, v));
+            }
         }
-        for (int v : new int[] {-1001, 1001, Integer.MIN_VALUE, Integer.MAX_VALUE}) {
-            CHECK.badArgument("takes(0, " + v + ")", () -> x.takes(0, v));
-            CHECK.badArgument("takes(1, " + v + ") of rank 0", () -> x.takes(1, v));
+    }
+
+    /** Of a form of rank 0, too. */
+    private static void numberTooSmall() {
+        for (int v : new int[] {-1001, -1002, Refused.MIN}) {
+            REFUSED.argument("takes(0, " + v + ")", x -> x.takes(0, v));
+            REFUSED.argument("takes(1, " + v + ")", x -> x.takes(1, v));
         }
-        CHECK.badArithmetic("takes(0, 0)", () -> x.takes(0, 0));
-        CHECK.badArithmetic("takes(1, 0) of rank 0", () -> x.takes(1, 0));
+    }
+
+    private static void numberTooLarge() {
+        for (int v : new int[] {1001, 1002, Refused.MAX}) {
+            REFUSED.argument("takes(0, " + v + ")", x -> x.takes(0, v));
+            REFUSED.argument("takes(1, " + v + ")", x -> x.takes(1, v));
+        }
+    }
+
+    private static void numberIsZero() {
+        REFUSED.arithmetic("takes(0, 0)", x -> x.takes(0, 0));
+        REFUSED.arithmetic("takes(1, 0)", x -> x.takes(1, 0));
+        for (int v : new int[] {-1, 1}) {
+            CHECK.due("takes " + v + " throws", Answers.thrownBy(() -> Make.form(1).takes(0, v)), "nothing");
+        }
+    }
+
+    private static void whichComesFirst() {
+        for (int f : Refused.NO_FORMS) {
+            REFUSED.argument("takes(" + f + ", 0)", x -> x.takes(f, 0));
+            REFUSED.argument("takes(" + f + ", 1001)", x -> x.takes(f, 1001));
+        }
     }
 
     private static void due(int[][] m, int v, boolean want) {

@@ -3,12 +3,15 @@ public final class Promise11ValueTest {
     private static final int MIN = Integer.MIN_VALUE;
     private static final int MAX = Integer.MAX_VALUE;
     private static final Check CHECK = new Check();
+    private static final Refused REFUSED = new Refused(CHECK);
 
     public static void main(String[] args) {
         ordinary();
         theEdges();
         variablesThatItLacks();
-        wrongInputs();
+        everyVariableUpToThousand();
+        variableTooSmallOrTooLarge();
+        noSuchForm();
         CHECK.end();
     }
 
@@ -46,17 +49,50 @@ public final class Promise11ValueTest {
         CHECK.due("dimension 2 after 4", x.value(0, 3, 5, 7, 9), 9L);
     }
 
-    private static void wrongInputs() {
-        RationalForms x = Make.form(1, 2, 3, 4);
-        for (int f : new int[] {-1, 2, MIN, MAX}) {
-            CHECK.badArgument("value(" + f + ", 0, 0, 0, 0)", () -> x.value(f, 0, 0, 0, 0));
+    /** In every dimension, each variable that the form has takes -1000 and 1000. */
+    private static void everyVariableUpToThousand() {
+        for (int n = 1; n <= 4; n++) {
+            for (int at = 0; at < n; at++) {
+                int[] a = new int[n];
+                a[at] = -6;
+                for (int v : new int[] {-1000, 1000}) {
+                    int[] point = new int[4];
+                    point[at] = v;
+                    CHECK.due("variable " + at + " of " + n + " is " + v, value(Make.form(a), point), -6_000_000L);
+                }
+            }
         }
-        for (int v : new int[] {-1001, 1001, MIN, MAX}) {
-            CHECK.badArgument("value(0, " + v + ", 0, 0, 0)", () -> x.value(0, v, 0, 0, 0));
-            CHECK.badArgument("value(0, 0, " + v + ", 0, 0)", () -> x.value(0, 0, v, 0, 0));
-            CHECK.badArgument("value(0, 0, 0, " + v + ", 0)", () -> x.value(0, 0, 0, v, 0));
-            CHECK.badArgument("value(0, 0, 0, 0, " + v + ")", () -> x.value(0, 0, 0, 0, v));
-            CHECK.badArgument("value(1, " + v + ", 0, 0, 0) of dimension 1", () -> x.value(1, v, 0, 0, 0));
+    }
+
+    /** Those that it has are refused from -1001 and 1001 on, those that it does not have never. */
+    private static void variableTooSmallOrTooLarge() {
+        for (int n = 1; n <= 4; n++) {
+            int[][] m = new Make(n + 10).matrix(n, 6);
+            Refused alone = REFUSED.with(m, m);
+            for (int at = 0; at < 4; at++) {
+                for (int v : new int[] {-1001, 1001, -1002, 1002, MIN, MAX}) {
+                    int[] point = new int[4];
+                    point[at] = v;
+                    String call = "value with variable " + at + " of " + n + " at " + v;
+                    if (at < n) {
+                        alone.argument(call, x -> x.value(0, point[0], point[1], point[2], point[3]));
+                        alone.argument(call, x -> x.value(1, point[0], point[1], point[2], point[3]));
+                    } else {
+                        CHECK.due(call, value(Make.form(m), point), 0L);
+                    }
+                }
+            }
+        }
+    }
+
+    private static long value(RationalForms x, int[] point) {
+        return x.value(0, point[0], point[1], point[2], point[3]);
+    }
+
+    private static void noSuchForm() {
+        for (int f : Refused.NO_FORMS) {
+            REFUSED.argument("value(" + f + ", 0, 0, 0, 0)", x -> x.value(f, 0, 0, 0, 0));
+            REFUSED.argument("value(" + f + ", 1, 2, 3, 4)", x -> x.value(f, 1, 2, 3, 4));
         }
     }
 }
