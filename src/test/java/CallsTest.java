@@ -14,6 +14,7 @@ public final class CallsTest {
         putAgainAndAgain();
         beginAgainAndAgain();
         askingChangesNothing();
+        manyFormsInTurn();
         CHECK.end();
     }
 
@@ -94,6 +95,27 @@ public final class CallsTest {
             RationalForms x = made();
             call.apply(x);
             CHECK.due("all answers behind a call", Answers.of(x), Answers.of(made()));
+        }
+    }
+
+    /** One object, each time with another number put, answers as a new one: nothing fills up in it. */
+    private static void manyFormsInTurn() {
+        Make make = new Make(512);
+        RationalForms x = new RationalForms();
+        int[][] m = new int[4][4];
+        x.begin(0, 4);
+        int calls = 1;
+        while (calls <= MOST_CALLS - 20) {
+            int i = make.number(0, 3);
+            int j = make.number(0, 3);
+            m[i][j] = make.number(-6, 6);
+            m[j][i] = m[i][j];
+            x.put(0, i, j, m[i][j]);
+            String name = Make.text(m) + " behind " + calls + " calls";
+            List<Integer> signs = Answers.signs(x, 0);
+            CHECK.due("signs of " + name, signs, Answers.signs(Make.form(m), 0));
+            CHECK.due("obstacle of " + name, x.obstacle(0), Make.form(m).obstacle(0));
+            calls += signs.size() + 3;
         }
     }
 }

@@ -27,6 +27,7 @@ public final class Promise12SignTest {
         due(Make.diagonal(2, 3), 2, 3);
         due(Make.diagonal(3, 5), 3, 5);
         due(Make.diagonal(5, 3), 3, 5);
+        due(Make.diagonal(5, 6), 2, 3);
         due(new int[][] {{2, 1}, {1, 6}}, 2, 11);
         due(new int[][] {{0, 1, 1}, {1, 0, 1}, {1, 1, 0}}, 2);
     }
